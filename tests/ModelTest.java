@@ -17,12 +17,14 @@ public final class ModelTest {
     private final Model model = new Model();
     private final StringBuilder log = new StringBuilder();
     private final boolean isNarrow;
+    private final boolean isWild;
     private final int keys;
     private int calls = 0;
 
     private ModelTest(long seed) {
         random = new Random(seed);
         isNarrow = random.nextBoolean();
+        isWild = random.nextInt(5) == 0;
         keys = random.nextInt(4) == 0 ? 12 : 100;
     }
 
@@ -132,7 +134,7 @@ public final class ModelTest {
     }
 
     private String word() {
-        if (random.nextInt(12) == 0) {
+        if (random.nextInt(isWild ? 3 : 12) == 0) {
             StringBuilder word = new StringBuilder();
             for (int k = random.nextInt(14); k >= 0; k--) {
                 word.append("aest0Ybdngi".charAt(random.nextInt(11)));

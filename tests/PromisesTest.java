@@ -23,6 +23,7 @@ public final class PromisesTest {
         test.takingAWord();
         test.theWordInTexts();
         test.nearestWord();
+        test.manyWords();
         test.askingTakesTheTape();
         test.errorsOfQuestions();
         test.limitsOfQuestions();
@@ -144,7 +145,7 @@ public final class PromisesTest {
             {"beddings", "bedding"}, {"seeds", "seed"}, {"thes", "the"}, {"THE", "the"}, {"a", "a"},
             {"abcdefghijklmno", "abcdefghijkl"}, {"abcdefghijksmno", "abcdefghijk"}, {"abcdefghiiesx", "abcdefghiy"},
             {"abcdefghiingx", "abcdefghi"}, {"abcdefghijedx", "abcdefghij"}, {"abcdefghssesx", "abcdefghss"},
-            {"1234s", "1234"}, {"0", "0"}, {"z9", "z9"}, {"ss", "ss"}, {"us", "us"}, {"s", "s"}, {"ass9", "ass9"}};
+            {"ZzyAxXB", "zzyaxxb"}, {"1234s", "1234"}, {"0", "0"}, {"z9", "z9"}, {"ss", "ss"}, {"us", "us"}, {"s", "s"}, {"ass9", "ass9"}};
         for (String[] word : words) {
             t.due("word of " + word[0], Tester.takeWord(new BeaconIndex(), " \u00e1." + word[0] + " x"), word[1]);
         }
@@ -456,6 +457,36 @@ public final class PromisesTest {
         BeaconIndex small = with("the of");
         Tester.takeWord(small, "the");
         t.due("small words are no words", small.nearest(), -1);
+    }
+
+    // Promises 15, 26: more words than the first rows have room for
+    private void manyWords() {
+        nears("sea", "|pea;|pea tea;|tea aaa tea", 1, "pea");
+        StringBuilder title = new StringBuilder();
+        StringBuilder body = new StringBuilder();
+        for (int k = 0; k < 65; k++) {
+            title.append(k + 100).append(' ');
+            body.append(964 - k).append(' ');
+        }
+        BeaconIndex index = new BeaconIndex();
+        Tester.add(index, 0, title + "|900 zz");
+        Tester.add(index, 1, title + "the|" + title.substring(0, 120));
+        Tester.add(index, 2, "|" + body);
+        Tester.add(index, 3, "|zzy " + body);
+        index.commit();
+        t.due("many words of titles", index.wordsIn(0, 0), 65);
+        t.due("many words of bodies", index.wordsIn(0, 1), 97);
+        Tester.takeWord(index, "zz");
+        t.due("one among many", index.nearest(), 0);
+        Tester.takeWord(index, "zzx");
+        t.due("near among many", index.nearest(), 1);
+        t.due("the first by its bytes", Tester.word(index), "zz");
+        Tester.takeWord(index, "90");
+        t.due("in most texts among many", index.nearest(), 1);
+        t.due("three texts have it", Tester.word(index), "900");
+        Tester.takeWord(index, "8");
+        index.nearest();
+        t.due("the first of those in two texts", Tester.word(index), "108");
     }
 
     // Promise 27
