@@ -862,7 +862,7 @@ public final class BeaconIndex {
 
         private void note(long word, int text) {
             int k = placeFor(word);
-            if (wordAt(k) != word) {
+            if (k >= size || wordAt(k) != word) {
                 makeRoomAt(k);
                 words[k] = word;
                 textCounts[k] = 1;
@@ -968,6 +968,8 @@ public final class BeaconIndex {
         int beginningBytes = 0;
         /** The place of the question in it among all that were asked with it. */
         int inner = 0;
+        int titleRarity = 0;
+        int bodyRarity = 0;
 
         Part(int number, int sign, int field, boolean barred, int kind, long[] words) {
             this.number = number;
@@ -1472,12 +1474,11 @@ public final class BeaconIndex {
     private static final class Fits {
         final int[] times = new int[MOST_TOKENS * MOST_TEXTS * FIELDS];
         final int[] firsts = new int[MOST_TOKENS * MOST_TEXTS * FIELDS];
-        final int[] rarities = new int[MOST_TOKENS * FIELDS];
         final int[] meanLengths = new int[FIELDS];
         final Match match = new Match();
 
-        private static int slot(int part, int text, int field) {
-            return (part * MOST_TEXTS + text) * FIELDS + field;
+        private static int slot(Part part, int text, int field) {
+            return Findings.slot(part, text) * FIELDS + field;
         }
 
         void fill(ArrayList<Question> questions, ArrayList<Text> texts) {
@@ -1487,8 +1488,9 @@ public final class BeaconIndex {
             for (int q = 0; q < questions.size(); q++) {
                 ArrayList<Part> parts = questions.get(q).parts;
                 for (int i = 0; i < parts.size(); i++) {
-                    fillPart(parts.get(i), TITLE, texts);
-                    fillPart(parts.get(i), BODY, texts);
+                    Part part = parts.get(i);
+                    part.titleRarity = rarityOf(texts.size(), fillPart(part, TITLE, texts));
+                    part.bodyRarity = rarityOf(texts.size(), fillPart(part, BODY, texts));
                 }
             }
         }
@@ -1504,37 +1506,36 @@ public final class BeaconIndex {
             return Math.max(1, sum / texts.size());
         }
 
-        private void fillPart(Part part, int field, ArrayList<Text> texts) {
-            if (part.number >= MOST_TOKENS) {
-                return;
-            }
+        /** Answers in how many texts it fits. */
+        private int fillPart(Part part, int field, ArrayList<Text> texts) {
             int holders = 0;
             for (int text = 0; text < texts.size() && text < MOST_TEXTS; text++) {
                 match.forget();
                 if (part.isLookedForIn(field)) {
                     match.look(part, texts.get(text).row(field));
                 }
-                times[slot(part.number, text, field)] = match.times;
-                firsts[slot(part.number, text, field)] = match.first;
+                times[slot(part, text, field)] = match.times;
+                firsts[slot(part, text, field)] = match.first;
                 holders += match.times > 0 ? 1 : 0;
             }
-            rarities[part.number * FIELDS + field] = rarityOf(texts.size(), holders);
+            return holders;
         }
 
         boolean isIn(Part part, int text) {
-            return times[slot(part.number, text, TITLE)] > 0 || times[slot(part.number, text, BODY)] > 0;
+            return times[slot(part, text, TITLE)] > 0 || times[slot(part, text, BODY)] > 0;
         }
 
         int unitWeight(Part part, int textIndex, Text text) {
-            int inTitle = weightIn(part.number, textIndex, text, TITLE);
-            int inBody = weightIn(part.number, textIndex, text, BODY);
+            int timesInTitle = times[slot(part, textIndex, TITLE)];
+            int timesInBody = times[slot(part, textIndex, BODY)];
+            int inTitle = fieldWeight(part.titleRarity, timesInTitle, text.title.length, meanLengths[TITLE]);
+            int inBody = fieldWeight(part.bodyRarity, timesInBody, text.body.length, meanLengths[BODY]);
             return capped(2 * inTitle + inBody);
         }
 
-        private int weightIn(int part, int textIndex, Text text, int field) {
-            int count = times[slot(part, textIndex, field)];
-            int divisor = 10 * count + 3 + 9 * text.row(field).length / Math.max(1, meanLengths[field]);
-            return rarities[part * FIELDS + field] * 22 * count / Math.max(1, divisor);
+        private static int fieldWeight(int rarity, int count, int length, int meanLength) {
+            int divisor = 10 * count + 3 + 9 * length / Math.max(1, meanLength);
+            return rarity * 22 * count / Math.max(1, divisor);
         }
 
         /** The first place at which any part fits that is in none with a minus. */
@@ -1544,7 +1545,7 @@ public final class BeaconIndex {
                 ArrayList<Part> parts = questions.get(q).parts;
                 for (int i = 0; i < parts.size(); i++) {
                     Part part = parts.get(i);
-                    int first = part.barred ? NOWHERE : firsts[slot(part.number, text, field)];
+                    int first = part.barred ? NOWHERE : firsts[slot(part, text, field)];
                     if (first != NOWHERE && (least == NOWHERE || first < least)) {
                         least = first;
                     }
@@ -1579,8 +1580,10 @@ public final class BeaconIndex {
         final int[] order = new int[MOST_TEXTS];
         int count = 0;
 
-        private static int slot(Part part, int text) {
-            return part.number * MOST_TEXTS + text;
+        /** The tables have room for each part of a question and each text; for all else there is slot 0. */
+        static int slot(Part part, int text) {
+            boolean isHeld = part.number >= 0 && part.number < MOST_TOKENS && text >= 0 && text < MOST_TEXTS;
+            return isHeld ? part.number * MOST_TEXTS + text : 0;
         }
 
         int textAt(int place) {
@@ -1634,6 +1637,9 @@ public final class BeaconIndex {
         }
 
         private void putInOrder(int text, ArrayList<Text> texts) {
+            if (count >= order.length) {
+                return;
+            }
             int place = count;
             while (place > 0 && isAhead(text, order[place - 1], texts)) {
                 order[place] = order[place - 1];
