@@ -1,10 +1,10 @@
 /** Promise by promise: ordinary inputs, the edges that the document names, and wrong inputs. */
 public final class PromisesTest {
-    private static final String ISE = "IllegalStateException";
-    private static final String IAE = "IllegalArgumentException";
-    private static final String IOOBE = "IndexOutOfBoundsException";
-    private static final int MIN = Integer.MIN_VALUE;
-    private static final int MAX = Integer.MAX_VALUE;
+    private static final String ISE = Tester.ISE;
+    private static final String IAE = Tester.IAE;
+    private static final String IOOBE = Tester.IOOBE;
+    private static final int MIN = Tester.MIN;
+    private static final int MAX = Tester.MAX;
 
     private final Tester t = new Tester();
 
@@ -48,12 +48,7 @@ public final class PromisesTest {
     }
 
     private static BeaconIndex with(String... texts) {
-        BeaconIndex index = new BeaconIndex();
-        for (int key = 0; key < texts.length; key++) {
-            Tester.add(index, key, texts[key]);
-        }
-        index.commit();
-        return index;
+        return Tester.with(texts);
     }
 
     private void finds(BeaconIndex index, String question, String keys) {
@@ -218,10 +213,7 @@ public final class PromisesTest {
     }
 
     private static void segment(BeaconIndex index, int from, int count) {
-        for (int key = from; key < from + count; key++) {
-            Tester.add(index, key, "w" + key);
-        }
-        index.commit();
+        Tester.segment(index, from, count);
     }
 
     // Promises 6, 10, 11, 14
@@ -882,10 +874,6 @@ public final class PromisesTest {
     }
 
     private static long folded(int[] values) {
-        long d = 2447;
-        for (int v : values) {
-            d = d * 31 + v;
-        }
-        return d;
+        return Tester.folded(values).longValue();
     }
 }

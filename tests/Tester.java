@@ -1,11 +1,37 @@
+import java.math.BigInteger;
+
 /** What the tests share: a tape fed by texts, and dues that are counted when they are not met. */
 final class Tester {
     static final String NOTHING = "nothing";
+    static final String ISE = "IllegalStateException";
+    static final String IAE = "IllegalArgumentException";
+    static final String IOOBE = "IndexOutOfBoundsException";
+    static final int MIN = Integer.MIN_VALUE;
+    static final int MAX = Integer.MAX_VALUE;
     private int wrong = 0;
     private int asked = 0;
+    private String test = "";
 
     interface Call {
         void run();
+    }
+
+    /** An index of one segment, with these texts under the keys from 0 on. */
+    static BeaconIndex with(String... texts) {
+        BeaconIndex index = new BeaconIndex();
+        for (int key = 0; key < texts.length; key++) {
+            add(index, key, texts[key]);
+        }
+        index.commit();
+        return index;
+    }
+
+    /** A segment of texts with a word each, under these keys. */
+    static void segment(BeaconIndex index, int from, int count) {
+        for (int key = from; key < from + count; key++) {
+            add(index, key, "w" + key);
+        }
+        index.commit();
     }
 
     static void feed(BeaconIndex index, String text) {
@@ -56,6 +82,42 @@ final class Tester {
         return word.toString();
     }
 
+    /** How many bytes are on the tape, found out without changing it. */
+    static int tapeBytes(BeaconIndex index) {
+        try {
+            int bytes = index.feed(0, 0, 0, 0, 0) - 20;
+            return index.trim(bytes);
+        } catch (IllegalStateException e) {
+            int bytes = 400;
+            while (!thrownByTrim(index, bytes).equals(NOTHING)) {
+                bytes--;
+            }
+            return bytes;
+        }
+    }
+
+    private static String thrownByTrim(BeaconIndex index, int bytes) {
+        return thrown(() -> index.trim(bytes));
+    }
+
+    /** The keys of a segment, in order, each with a blank behind it. */
+    static String keysIn(BeaconIndex index, int segment) {
+        StringBuilder keys = new StringBuilder();
+        for (int text = 0; text < index.textsIn(segment); text++) {
+            keys.append(index.keyAt(segment, text)).append(' ');
+        }
+        return keys.toString();
+    }
+
+    /** What the digest makes of these values, told by numbers without an end; 64 bits of them are kept. */
+    static BigInteger folded(int... values) {
+        BigInteger d = BigInteger.valueOf(2447);
+        for (int v : values) {
+            d = d.multiply(BigInteger.valueOf(31)).add(BigInteger.valueOf(v));
+        }
+        return d;
+    }
+
     /** The keys that are found, in order, each with a blank behind it. */
     static String keys(BeaconIndex index) {
         StringBuilder keys = new StringBuilder();
@@ -74,11 +136,16 @@ final class Tester {
         return NOTHING;
     }
 
+    /** What is told from now on is told with this ahead. */
+    void begin(String name) {
+        test = name;
+    }
+
     void due(String what, Object got, Object want) {
         asked++;
         if (!got.equals(want)) {
             wrong++;
-            System.out.println(what + " answered " + got + ", due is " + want);
+            System.out.println(test + what + " answered " + got + ", due is " + want);
         }
     }
 
