@@ -95,6 +95,11 @@ final class FindingSentences {
         t.due("marked, and buffered", index.placeOf(1), -1);
         index.commit();
         t.due("marked, and in another segment", index.placeOf(1), 1);
+        Tester.ask(index, "bus");
+        t.due("the least key is not found", index.placeOf(0), -1);
+        t.due("nor is one behind the only one", index.placeOf(1), -1);
+        Tester.ask(index, "none");
+        t.due("none is found", index.placeOf(0), -1);
     }
 
     @Sentence(of = "Promise 34", says = "Returns the weight of this part for the text with this key; 0 if that is in no segment, or marked.")

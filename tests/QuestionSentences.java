@@ -147,6 +147,7 @@ final class QuestionSentences {
         errs("\"(b)\"", 1);
         errs("\"b:c\"", 2);
         errs("\"title:c\"", 6);
+        errs("\":c\"", 1);
         errs("\"b~2\"", 2);
         isOne("\"b\"~2");
         errs("\"b\"~", 4);

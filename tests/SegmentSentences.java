@@ -454,7 +454,7 @@ final class SegmentSentences {
 
     @Sentence(of = "Promise 15", says = "Returns how many different words its texts, marked ones counted, have in this field.")
     void wordsOfASegment() {
-        BeaconIndex index = Tester.with("sea bus|sea", "SEAS the|storm of x", "");
+        BeaconIndex index = Tester.with("sea bus|sea", "", "SEAS the|storm of x");
         Tester.segment(index, 10, 4);
         t.due("of titles", index.wordsIn(0, 0), 2);
         t.due("of bodies", index.wordsIn(0, 1), 3);
