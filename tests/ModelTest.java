@@ -18,6 +18,7 @@ public final class ModelTest {
     private final StringBuilder log = new StringBuilder();
     private final boolean isNarrow;
     private final boolean isWild;
+    private final boolean isDense;
     private final int keys;
     private int calls = 0;
 
@@ -25,6 +26,7 @@ public final class ModelTest {
         random = new Random(seed);
         isNarrow = random.nextBoolean();
         isWild = random.nextInt(5) == 0;
+        isDense = random.nextInt(4) == 0;
         keys = random.nextInt(4) == 0 ? 12 : 100;
     }
 
@@ -50,6 +52,9 @@ public final class ModelTest {
             } else if (dice < 50) {
                 feedText(question());
                 compare("ask()", BeaconIndex::ask, Model::ask);
+                if (random.nextInt(3) == 0) {
+                    compare("digest()", BeaconIndex::digest, Model::digest);
+                }
             } else if (dice < 60) {
                 feedText(word());
                 compare("takeWord()", BeaconIndex::takeWord, Model::takeWord);
@@ -146,6 +151,9 @@ public final class ModelTest {
     }
 
     private String text() {
+        if (random.nextInt(isDense ? 4 : 40) == 0) {
+            return denseText();
+        }
         StringBuilder text = new StringBuilder();
         int size = random.nextInt(random.nextInt(10) == 0 ? 40 : 9);
         for (int k = 0; k < size; k++) {
@@ -154,9 +162,25 @@ public final class ModelTest {
         return text.toString();
     }
 
+    /** As many words as the tape can hold: 200 of one byte, or fewer. */
+    private String denseText() {
+        StringBuilder text = new StringBuilder();
+        boolean isShort = random.nextBoolean();
+        while (text.length() < 400) {
+            text.append(isShort ? "" + "abstxyAS17".charAt(random.nextInt(10)) : word());
+            text.append(random.nextInt(90) == 0 ? '|' : ' ');
+        }
+        return text.toString();
+    }
+
     private String question() {
         StringBuilder text = new StringBuilder();
-        parts(text, 0);
+        switch (random.nextInt(10)) {
+            case 0 -> crowd(text);
+            case 1 -> weighDown(text);
+            case 2 -> scatter(text);
+            default -> parts(text, 0);
+        }
         if (random.nextInt(4) == 0) {
             int at = random.nextInt(text.length() + 1);
             text.insert(at, SIGNS[random.nextInt(SIGNS.length)]);
@@ -165,6 +189,43 @@ public final class ModelTest {
             text.deleteCharAt(random.nextInt(text.length()));
         }
         return text.toString();
+    }
+
+    /** A question of about as many tokens as are allowed. */
+    private void crowd(StringBuilder text) {
+        int tokens = 36 + random.nextInt(7);
+        while (tokens > 0) {
+            int dice = tokens < 6 ? 5 : random.nextInt(6);
+            switch (dice) {
+                case 0 -> text.append("-(").append(word()).append(") ");
+                case 1 -> text.append("title:").append(word()).append("* ");
+                case 2 -> text.append('"').append(word()).append(' ').append(word()).append("\"~7 ");
+                case 3 -> text.append(word()).append("^9 ");
+                default -> text.append(word()).append(' ');
+            }
+            tokens -= dice < 2 ? 4 : dice == 2 ? 6 : dice == 3 ? 3 : 1;
+        }
+    }
+
+    /** Weights times weights, so that they come near to the greatest one there is, and above it. */
+    private void weighDown(StringBuilder text) {
+        int open = random.nextInt(5);
+        for (int k = 0; k < open; k++) {
+            text.append('(');
+        }
+        text.append("s*^").append(90 + random.nextInt(10)).append(' ').append(word());
+        for (int k = 0; k < open; k++) {
+            text.append(")^").append(random.nextInt(3) == 0 ? random.nextInt(100) : random.nextInt(12));
+        }
+        text.append(" t*^").append(random.nextInt(100));
+    }
+
+    /** Signs and short runs without any order. */
+    private void scatter(StringBuilder text) {
+        for (int k = random.nextInt(12); k >= 0; k--) {
+            boolean isNamed = random.nextInt(9) == 0;
+            text.append(isNamed ? "Title" : "" + "+-\"*~^:() sx7".charAt(random.nextInt(13)));
+        }
     }
 
     private void parts(StringBuilder text, int open) {
